@@ -715,11 +715,10 @@ public final class BellRoster {
         private int repeatedRows;
 
         void begin() {
-            Arrays.fill(seen, 0);
+            Arrays.fill(seen, 0L);
             for (int bell = 0; bell < BELLS; bell++) {
                 placeOf[bell] = bell;
                 moveOf[bell] = 0;
-                moveAheadOf[bell] = 0;
             }
             changesMade = 0;
             repeatedRows = 0;

@@ -85,6 +85,9 @@ final class DaysTest {
         Check.dueUnchanged("promise 20: 60 days", t, 1, () -> t.foresee(4, 60, 4));
         t.pass(7);
         Check.due("promise 20: as it came", t.told(6, 5), 0);
+        t.seat(0, 0, 3);
+        t.seat(0, 3, 0);
+        Check.dueUnchanged("promise 20: with other wards", t, 3, () -> t.foresee(6, 7, 5));
     }
 
     private static void foreseeThrows() {

@@ -191,6 +191,11 @@ final class RingersAndBandsTest {
         Check.dueUnchanged("promise 9: the band itself would be free", t, 1, () -> t.bell(1, 0, 2));
         Check.due("promise 9: none is left", t.bell(1, 4, 2), -1);
         Check.due("promise 9: of another ward", t.bell(1, 1, 2), -1);
+        t.seat(1, 0, 3);
+        Check.dueUnchanged("promise 9: the ward elects for it no more", t, -1, () -> t.bell(1, 0, 2));
+        Check.dueUnchanged("promise 9: but for the bell 4", t, 1, () -> t.bell(1, 4, 2));
+        t.seat(1, 3, 0);
+        Check.dueUnchanged("promise 9: the ward elects for the bell 3 now", t, 1, () -> t.bell(1, 3, 2));
         Check.dueThrow("bell(-1, 0, 0)", t, Check.INDEX, () -> t.bell(-1, 0, 0));
         Check.dueThrow("bell(3, 0, 0)", t, Check.INDEX, () -> t.bell(3, 0, 0));
         Check.dueThrow("bell(0, -1, 0)", t, Check.INDEX, () -> t.bell(0, -1, 0));
