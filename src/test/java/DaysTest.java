@@ -10,6 +10,7 @@ final class DaysTest {
         foresee();
         foreseeThrows();
         mean();
+        twentyRingers();
         digestOfNothing();
         digest();
         Check.finish();
@@ -117,6 +118,23 @@ final class DaysTest {
         t.leave(0);
         t.put(1, 1, 3);
         Check.dueDouble("promise 21: no whole number", t.mean(), 4.0 / 3.0);
+    }
+
+    /** As many as there can be, so that a step behind the last one would show. */
+    private static void twentyRingers() {
+        BellRoster t = Towers.withBand(1, 50);
+        for (int i = 6; i < 20; i++) {
+            t.ringer(i % 4, 1, 30 + i);
+        }
+        Towers.addMethod(t, 1);
+        Check.dueDouble("promise 21: six of twenty", t.mean(), 1.0);
+        Check.due("promise 15: twenty are there", t.ring(0, 0, 4), 2);
+        Check.due("promise 15: the last one does not ring", t.told(19, 2), 49);
+        Check.due("promise 20: the last one, elected", t.foresee(19, 7, 5), 3);
+        Check.due("promise 19: how many moved", t.pass(7), 15);
+        Check.due("promise 19: the last one, elected", t.told(19, 4), 0);
+        Check.due("promise 18: who ring", t.count(2), 16);
+        Check.due("promise 18: two bands are whole", t.count(4), 2);
     }
 
     private static void digestOfNothing() {

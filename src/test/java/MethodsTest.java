@@ -1,3 +1,8 @@
+import java.util.ArrayList;
+import java.util.HashSet;
+import java.util.List;
+import java.util.Set;
+
 /** Promises 10 to 14. */
 final class MethodsTest {
     private MethodsTest() {
@@ -8,6 +13,7 @@ final class MethodsTest {
         add();
         about();
         aboutFalseCourses();
+        aboutAnyTwoRows();
         row();
         dodges();
         Check.finish();
@@ -93,6 +99,71 @@ final class MethodsTest {
         dueAbout(t, 3, 3, 2, 2, 4, 10, 4);
         Towers.addMethod(t, Towers.SWAY);
         dueAbout(t, 4, 4, 2, 2, 6, 12, 2);
+    }
+
+    /** Six changes lead to any row, and six more to any other: so each pair of rows is once told apart. */
+    private static void aboutAnyTwoRows() {
+        List<String> rows = new ArrayList<>();
+        addRows("", rows);
+        for (String first : rows) {
+            for (String second : rows) {
+                if (first.compareTo(second) < 0) {
+                    aboutTwoRows(first, second);
+                }
+            }
+        }
+    }
+
+    private static void addRows(String begun, List<String> rows) {
+        if (begun.length() == 6) {
+            rows.add(begun);
+        }
+        for (char bell = '0'; bell < '6'; bell++) {
+            if (begun.indexOf(bell) < 0) {
+                addRows(begun + bell, rows);
+            }
+        }
+    }
+
+    private static void aboutTwoRows(String first, String second) {
+        BellRoster t = new BellRoster();
+        int method = t.method();
+        StringBuilder row = new StringBuilder("012345");
+        List<String> lead = new ArrayList<>();
+        lead.add(row.toString());
+        goTo(first, row, lead, t);
+        goTo(second, row, lead, t);
+        if (t.about(method, 1) == 1) {
+            int different = new HashSet<>(lead).size();
+            Check.due("promise 12: different rows by " + first + " and " + second, t.about(method, 2), different);
+            return;
+        }
+        Set<Integer> course = new HashSet<>();
+        int changes = t.about(method, 0) * t.about(method, 1);
+        for (int i = 0; i < changes; i++) {
+            course.add(t.row(method, i));
+        }
+        Check.due("promise 12: different rows by " + first + " and " + second, t.about(method, 2), course.size());
+        Check.due("promise 12: false rows by " + first + " and " + second, t.about(method, 3), changes - course.size());
+    }
+
+    /** Sorts by the pairs from place 0 and those from place 1 in turn, which six changes always bring to an end. */
+    private static void goTo(String aim, StringBuilder row, List<String> lead, BellRoster t) {
+        for (int i = 0; i < 6; i++) {
+            int change = 0;
+            for (int place = i % 2; place < 5; place += 2) {
+                char left = row.charAt(place);
+                char right = row.charAt(place + 1);
+                if (aim.indexOf(left) > aim.indexOf(right)) {
+                    row.setCharAt(place, right);
+                    row.setCharAt(place + 1, left);
+                    change += 1 << place;
+                }
+            }
+            t.add(0, change);
+            lead.add(row.toString());
+        }
+        Check.due("the row gone to", row.toString(), aim);
     }
 
     private static void row() {

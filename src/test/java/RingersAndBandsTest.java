@@ -173,6 +173,8 @@ final class RingersAndBandsTest {
         Check.due("promise 8: behind two", t.told(0, 7), 3);
         Check.due("promise 8: the same votes, the same rank", t.told(7, 7), 3);
         Check.due("promise 8: in another ward", t.told(8, 7), 1);
+        t.vote(0, 99);
+        Check.due("promise 8: behind the ringer 0 too", t.told(6, 7), 2);
         Check.dueThrow("told(0, -1)", t, Check.INDEX, () -> t.told(0, -1));
         Check.dueThrow("told(0, 8)", t, Check.INDEX, () -> t.told(0, 8));
         Check.dueThrow("told(9, 0)", t, Check.INDEX, () -> t.told(9, 0));
