@@ -1,3 +1,5 @@
+import java.util.List;
+
 /** Counts the answers that are not as due, and ends a test with exit code 1 if there was one. */
 final class Check {
     interface Call {
@@ -38,16 +40,34 @@ final class Check {
         }
     }
 
+    /** The first line that is another one is told. */
+    static void dueSame(String what, List<String> got, List<String> want) {
+        checks++;
+        int lines = Math.max(got.size(), want.size());
+        for (int i = 0; i < lines; i++) {
+            String gotLine = i < got.size() ? got.get(i) : "no line";
+            String wantLine = i < want.size() ? want.get(i) : "no line";
+            if (!gotLine.equals(wantLine)) {
+                wrong++;
+                System.out.println(what + ": " + gotLine + ", due is " + wantLine);
+                return;
+            }
+        }
+    }
+
+    /** The answer, or the very class of what is thrown. */
+    static String outcome(Call call) {
+        try {
+            return "" + call.run();
+        } catch (RuntimeException e) {
+            return e.getClass().getName();
+        }
+    }
+
     /** The call throws exactly this class, none below it, and leaves the tower as it was. */
     static void dueThrow(String what, BellRoster tower, Class<? extends RuntimeException> due, Call call) {
         long before = tower.digest();
-        String got;
-        try {
-            got = "the answer " + call.run();
-        } catch (RuntimeException e) {
-            got = e.getClass().getName();
-        }
-        due(what, got, due.getName());
+        due(what, outcome(call), due.getName());
         due(what + ": the digest behind it", tower.digest(), before);
     }
 

@@ -11,7 +11,6 @@ final class DaysTest {
         foreseeThrows();
         mean();
         twentyRingers();
-        digestOfNothing();
         digest();
         Check.finish();
     }
@@ -137,17 +136,6 @@ final class DaysTest {
         Check.due("promise 18: two bands are whole", t.count(4), 2);
     }
 
-    private static void digestOfNothing() {
-        long d = 1237;
-        for (int i = 0; i < 9; i++) {
-            d = d * 31;
-        }
-        for (int seat = 0; seat < 18; seat++) {
-            d = ((d * 31 + seat % 6 % 4) * 31 - 1) * 31 - 1;
-        }
-        Check.due("promise 22: a new object", new BellRoster().digest(), d);
-    }
-
     private static void digest() {
         BellRoster t = Towers.withBand(1, 50);
         t.ringer(2, 3, 77);
@@ -158,32 +146,7 @@ final class DaysTest {
         t.ring(0, 1, 3);
         t.pass(3);
         t.leave(4);
-        int[][] changes = {{}, Towers.SWAY, Towers.PLAIN_BOB};
-        long d = 1237;
-        for (int what = 0; what < 9; what++) {
-            d = d * 31 + t.count(what);
-        }
-        for (int ringer = 0; ringer < 7; ringer++) {
-            for (int what = 0; what < 8; what++) {
-                d = d * 31 + t.told(ringer, what);
-            }
-        }
-        for (int seat = 0; seat < 18; seat++) {
-            for (int what = 0; what < 3; what++) {
-                d = d * 31 + t.bell(seat / 6, seat % 6, what);
-            }
-        }
-        for (int method = 0; method < 3; method++) {
-            for (int what = 0; what < 6; what++) {
-                d = d * 31 + t.about(method, what);
-            }
-            for (int change : changes[method]) {
-                d = d * 31 + change;
-            }
-            for (int bell = 0; bell < 6; bell++) {
-                d = d * 31 + t.dodges(method, bell);
-            }
-        }
+        long d = Towers.digestOf(t, new int[][] {{}, Towers.SWAY, Towers.PLAIN_BOB});
         Check.due("promise 22: what all calls tell", t.digest(), d);
         Check.due("promise 22: the same once more", t.digest(), d);
     }

@@ -1,7 +1,8 @@
 /** Long runs of calls, the same each time, on a BellRoster and on the Oracle: all promises, one against the other. */
 final class OracleTest {
     private static final int RUNS = 300;
-    private static final int CALLS = 512;
+    // With a digest besides behind each 16, 510: the document says nothing of an object behind its 512th call.
+    private static final int CALLS = 480;
     private static final int[] CHANGES = {0, 1, 2, 4, 8, 16, 5, 9, 17, 10, 18, 20, 21};
     private static final int[] WILD = {Integer.MIN_VALUE, Integer.MAX_VALUE, -100, -1, 6, 12, 20, 61, 100, 201};
 
